@@ -557,9 +557,7 @@ public final class InterchangeDesk {
                 }
                 place++;
                 parts.addElement();
-                if (!takeElement(parts)) {
-                    return false;
-                }
+                takeElement(parts);
             }
             if (characters.at(place) != endMark) {
                 return false;
@@ -568,37 +566,33 @@ public final class InterchangeDesk {
             return true;
         }
 
-        private boolean takeElement(Parts parts) {
+        private void takeElement(Parts parts) {
             for (int k = 0; k < COMPONENTS_MOST; k++) {
                 parts.addComponent();
-                if (!takeComponent(parts)) {
-                    return false;
-                }
+                takeComponent(parts);
                 if (characters.at(place) != componentMark || parts.isFull()) {
-                    return true;
+                    return;
                 }
                 place++;
             }
-            return true;
         }
 
-        /** False if the text ends behind a release mark. */
-        private boolean takeComponent(Parts parts) {
+        /** Stops at a mark, or where the text ends, which the end mark that is due shows later. */
+        private void takeComponent(Parts parts) {
             for (; place < characters.size(); place++) {
                 int c = characters.at(place);
                 if (c == componentMark || c == elementMark || c == endMark) {
-                    return true;
+                    return;
                 }
                 if (c == releaseMark) {
                     place++;
                     c = characters.at(place);
-                    if (c == NONE) {
-                        return false;
-                    }
+                }
+                if (c == NONE) {
+                    return;
                 }
                 parts.addCharacter(c);
             }
-            return true;
         }
     }
 

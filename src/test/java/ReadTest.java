@@ -9,6 +9,7 @@ public final class ReadTest {
         limits();
         envelopes();
         throwsChangeNothing();
+        manyReads();
         tablesAsTheyAre();
         Check.end();
     }
@@ -62,6 +63,13 @@ public final class ReadTest {
         unfit("ABC+abc xyz ~!'");
         unfit("ABC+??+?++?:+?'+?x+? '");
         fine(ONE, 1);
+        faulty("XNA:", 3);
+        faulty("UXA:", 3);
+        faulty("UNX:", 3);
+        faulty("XXA:", 3);
+        unfit("XNA+'");
+        unfit("UXA+'");
+        unfit("UNX+'");
         // Where the text does not begin with UNA, that is a tag like any other.
         fine("UNB+++R'UNH+M+1'UNA'UNT+3+M'UNZ+1+R'", 1);
         unfit("ABC'UNA+x'");
@@ -130,7 +138,10 @@ public final class ReadTest {
         faulty(times("ABC'", 40) + " ", 160);
         fine("UNB+++R'UNH+M+1'" + times("ABC'", 36) + "UNT+38+M'UNZ+1+R'", 1);
         fine("UNB'" + times("UNH'UNT'", 19) + "UNZ'", 19);
-        fine("UNB'" + times("UNG'UNH'UNT'UNE'", 9) + "UNZ'", 9);
+        InterchangeDesk nine = fine("UNB'" + times("UNG'UNH'UNT'UNE'", 9) + "UNZ'", 9);
+        Check.due("groups", nine.interchange(2), 9);
+        Check.due("group 8", nine.group(8), 3);
+        Check.due("message 8", nine.message(8, 3), 8);
 
         unfit("ABC" + times("+", 120) + "'");
         faulty("ABC" + times("+", 121) + "'", 123);
@@ -227,6 +238,28 @@ public final class ReadTest {
         Check.due("fault", desk.fault(), -1);
         Check.due("the text is empty", Check.answer(desk::read), Check.ARGUMENT);
         Check.due("fault", desk.fault(), 0);
+    }
+
+    private static void manyReads() {
+        InterchangeDesk desk = new InterchangeDesk();
+        for (int k = 0; k < 8; k++) {
+            String grouped = "UNB+++" + times(k + "", 300) + "'UNG+G'UNH'UNT'UNE+1+G'UNG'UNH'UNT'UNE'UNZ+2'";
+            Check.due("read", Check.read(desk, grouped), 2);
+            Check.due("groups", desk.interchange(2), 2);
+            Check.due("group 0", desk.group(0), 0);
+            Check.due("group 1", desk.group(1), 3);
+            Check.due("its group", desk.message(1, 3), 1);
+            Check.due("a character", desk.segment(0, 2, 0, 299), '0' + k);
+            Check.due("how many", desk.segment(0, 2, 0, -1), 300);
+            String flat = "UNB+++" + times("::" + k, 40) + "'UNH'UNT'UNZ'";
+            Check.due("read", Check.read(desk, flat), 1);
+            Check.due("groups", desk.interchange(2), 0);
+            Check.due("group 0", desk.group(0), -1);
+            Check.due("its group", desk.message(0, 3), -1);
+            Check.due("message 1", desk.message(1, 0), -1);
+            Check.due("components", desk.segment(0, 2, -1, 0), 81);
+            Check.due("segment 4", desk.segment(4, -2, 0, 0), -1);
+        }
     }
 
     private static void tablesAsTheyAre() {

@@ -123,6 +123,16 @@ public final class TableTest {
         desk.open(3, true, 2);
         desk.slot(3, AAA, true, 1);
         Check.due("three deep again", desk.open(3, true, 2), 6);
+
+        // Nothing of what the items were before is left in the table.
+        InterchangeDesk again = new InterchangeDesk();
+        Check.table(again, 1, "(9 AAA! ) BBB!9");
+        Check.due("clear", again.clear(1), true);
+        Check.table(again, 1, "BBB CCC2");
+        Check.due("nothing is must", Check.verdictOf(again), "0 at -1");
+        Check.due("most 1", Check.verdictOf(again, "BBB", "BBB"), "6 at 3");
+        Check.due("most 2", Check.verdictOf(again, "CCC", "CCC", "CCC"), "6 at 4");
+        Check.due("in one list", Check.verdictOf(again, "BBB", "CCC", "CCC"), "0 at -1");
     }
 
     private static void typesAreApart() {
