@@ -228,10 +228,7 @@ public final class InterchangeDesk {
     }
 
     private static boolean isTag(int tag) {
-        return tag >>> 24 == 0
-                && isCapital(tag >>> 16)
-                && isCapital(tag >>> 8 & 255)
-                && isCapital(tag & 255);
+        return isCapital(tag >>> 16) && isCapital(tag >>> 8 & 255) && isCapital(tag & 255);
     }
 
     private static boolean isEnvelopeTag(int tag) {

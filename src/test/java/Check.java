@@ -50,7 +50,7 @@ final class Check {
         return part;
     }
 
-    static void type(InterchangeDesk desk, String text) {
+    static void type(Desk desk, String text) {
         for (int from = 0; from < text.length(); from += 8) {
             String some = text.substring(from, Math.min(text.length(), from + 8));
             due("type " + some, desk.type(part(some)), true);
@@ -58,20 +58,46 @@ final class Check {
     }
 
     /** Wipes, types and reads: the answer of the read. */
-    static String read(InterchangeDesk desk, String text) {
+    static String read(Desk desk, String text) {
         desk.wipe();
         type(desk, text);
         return answer(desk::read);
     }
 
+    /** A text that is not segments, and how many of its characters are fine. */
+    static void faulty(String text, int fine) {
+        Desk desk = new Desk();
+        due("read " + text, read(desk, text), ARGUMENT);
+        due("fault of " + text, desk.fault(), fine);
+        due("length of " + text, desk.length(), text.length());
+        due("print of " + text, answer(() -> desk.print(-1)), STATE);
+    }
+
+    /** A text that is segments, but not in envelopes as said. */
+    static void unfit(String text) {
+        Desk desk = new Desk();
+        due("read " + text, read(desk, text), UNSUPPORTED);
+        due("fault of " + text, desk.fault(), -1);
+        due("length of " + text, desk.length(), text.length());
+        due("print of " + text, answer(() -> desk.print(-1)), STATE);
+    }
+
+    /** A text that is an interchange with so many messages; the desk that has read it. */
+    static Desk fine(String text, int messages) {
+        Desk desk = having(text, messages);
+        due("fault of " + text, desk.fault(), -1);
+        due("length behind " + text, desk.length(), 0);
+        return desk;
+    }
+
     /** A desk that has read a text. */
-    static InterchangeDesk having(String text, int messages) {
-        InterchangeDesk desk = new InterchangeDesk();
+    static Desk having(String text, int messages) {
+        Desk desk = new Desk();
         due("read " + text, read(desk, text), messages);
         return desk;
     }
 
-    static String printOf(InterchangeDesk desk) {
+    static String printOf(Desk desk) {
         StringBuilder all = new StringBuilder();
         int count = desk.print(-1);
         for (int i = 0; i < count; i++) {
@@ -80,7 +106,7 @@ final class Check {
         return all.toString();
     }
 
-    static String reportOf(InterchangeDesk desk) {
+    static String reportOf(Desk desk) {
         StringBuilder all = new StringBuilder();
         int count = desk.report(-1);
         for (int i = 0; i < count; i++) {
@@ -90,7 +116,7 @@ final class Check {
     }
 
     /** Builds a table from words: TAG, TAG! (must) with a most behind it, ( or (! for open, ). */
-    static void table(InterchangeDesk desk, int type, String words) {
+    static void table(Desk desk, int type, String words) {
         for (String word : words.split(" ")) {
             boolean must = word.contains("!");
             String digits = word.replaceAll("[^0-9]", "");
@@ -106,12 +132,12 @@ final class Check {
     }
 
     /** CODE and PLACE of a message. */
-    static String verdict(InterchangeDesk desk, int m) {
+    static String verdict(Desk desk, int m) {
         return desk.message(m, 0) + " at " + desk.message(m, 1);
     }
 
     /** CODE and PLACE of the one message, of type 1, with these segments. */
-    static String verdictOf(InterchangeDesk desk, String... tags) {
+    static String verdictOf(Desk desk, String... tags) {
         StringBuilder text = new StringBuilder("UNB+++R'UNH+M+1'");
         for (String t : tags) {
             text.append(t).append("'");

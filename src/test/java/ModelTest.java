@@ -10,7 +10,7 @@ public final class ModelTest {
 
     private final Random random;
     private final int run;
-    private final InterchangeDesk desk = new InterchangeDesk();
+    private final Desk desk = new Desk();
     private final Model model = new Model();
     private int calls = 0;
     private static final int[] reads = new int[3];
