@@ -102,6 +102,7 @@ public final class MatchTest {
         is(desk, "AAA BBB CCC DDD FFF AAA", "4 at 7");
     }
 
+    /** "(a list that is still open counts as it is)"; "An empty list is passed like that." */
     private static void openLists() {
         Desk desk = with("AAA (2 BBB! CCC");
         is(desk, "AAA BBB CCC BBB", "0 at -1");
@@ -124,6 +125,7 @@ public final class MatchTest {
         is(with("(!2"), "", "5 at 2");
     }
 
+    /** "At UNT: from where one stands on, list by list up to the table, it is ERROR 5 if .." */
     private static void ends() {
         Desk inner = with("(1 AAA! (1 BBB! CCC! ) ) DDD");
         is(inner, "AAA", "0 at -1");
@@ -133,6 +135,12 @@ public final class MatchTest {
         is(with("(1 AAA! (1 BBB! ) CCC ) DDD!"), "AAA BBB", "5 at 4");
         is(with("(1 AAA! (1 BBB! ) CCC ) DDD"), "AAA BBB", "0 at -1");
         is(with("(1 AAA! (!1 BBB! ) )"), "AAA", "5 at 3");
+        // "(the items behind the one at which one stands have n = 0)"
+        is(with("AAA BBB CCC!"), "AAA", "5 at 3");
+        is(with("AAA!9 BBB!"), "AAA AAA", "5 at 4");
+        is(with("AAA!9 BBB"), "AAA AAA", "0 at -1");
+        is(with("AAA BBB CCC!"), "CCC", "0 at -1");
+        is(with("(9 AAA! BBB! ) CCC"), "AAA BBB AAA", "5 at 5");
         // What an item that was not had would ask for inside of it does not count.
         is(with("AAA (1 BBB! CCC! )"), "AAA", "0 at -1");
     }

@@ -213,6 +213,20 @@ public final class RefusedTest {
         return all.toString();
     }
 
+    /** How deep one stands can be seen of how many groups can be opened. */
+    private static String opened(Desk desk) {
+        StringBuilder all = new StringBuilder();
+        for (int k = 0; k < 4; k++) {
+            int type = k;
+            for (int n = 0; n < 4; n++) {
+                say(all, () -> desk.slot(type, Check.tag("EEE"), true, 1));
+                say(all, () -> desk.open(type, false, 2));
+            }
+        }
+        match(desk, all);
+        return all.toString();
+    }
+
     private static void same(State state, String what, Function<Desk, Object> call, Object want,
             Function<Desk, String> look) {
         Desk without = state.desk();
@@ -234,6 +248,7 @@ public final class RefusedTest {
         same(state, what, call, want, d -> read(d, state.rest));
         same(state, what, call, want, RefusedTest::matched);
         same(state, what, call, want, RefusedTest::added);
+        same(state, what, call, want, RefusedTest::opened);
     }
 
     private static void wrongBytes(State state) {
@@ -342,5 +357,6 @@ public final class RefusedTest {
         same(spoilt, "read", Desk::read, Check.UNSUPPORTED, rest);
         same(spoilt, "read", Desk::read, Check.UNSUPPORTED, RefusedTest::matched);
         same(spoilt, "read", Desk::read, Check.UNSUPPORTED, RefusedTest::added);
+        same(spoilt, "read", Desk::read, Check.UNSUPPORTED, RefusedTest::opened);
     }
 }

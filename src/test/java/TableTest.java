@@ -19,6 +19,7 @@ public final class TableTest {
         argumentsFirst();
         closing();
         closingEmptyLists();
+        deepBehindRefusedCloses();
         clearing();
         clearingOpenLists();
         clearingLeavesNothing();
@@ -291,6 +292,26 @@ public final class TableTest {
         // The list of the group around has items, of which the last one is a group.
         Check.due("with an item", desk.close(2), true);
         Check.due("the table's own", desk.close(2), false);
+    }
+
+    /** A close that is refused does not make a group less open. */
+    private static void deepBehindRefusedCloses() {
+        Desk desk = new Desk();
+        for (int k = 0; k < 3; k++) {
+            desk.open(1, false, 2);
+            Check.due("without an item", desk.close(1), false);
+            desk.slot(1, AAA, true, 1);
+        }
+        Check.due("a fourth one deep", open(desk, 1, false, 2), Check.STATE);
+        for (int k = 0; k < 3; k++) {
+            Check.due("with an item", desk.close(1), true);
+        }
+        Check.due("the table's own", desk.close(1), false);
+        for (int k = 0; k < 3; k++) {
+            desk.open(1, false, 2);
+            desk.slot(1, AAA, true, 1);
+        }
+        Check.due("a fourth one deep", open(desk, 1, false, 2), Check.STATE);
     }
 
     /** clear: "true; false if it is empty" */
