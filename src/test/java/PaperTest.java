@@ -17,6 +17,7 @@ public final class PaperTest {
         charactersOfTheReport();
         shorterReportBehindLonger();
         longestReport();
+        mostLinesOfTheReport();
         Check.end();
     }
 
@@ -197,22 +198,36 @@ public final class PaperTest {
         Check.due("behind it", desk.report(16), -1);
     }
 
-    private static void longestReport() {
-        int plain = 400 - "UNA!$.# %UNB%".length() - 19 * 8 - "UNZ%".length() - 1;
-        String text = "UNA!$.# %UNB%" + "UNH%UNT%".repeat(18) + "UNH$" + "?".repeat(plain) + "%UNT%UNZ%";
-        StringBuilder report = new StringBuilder("UCI++3'");
-        for (int m = 0; m < 18; m++) {
-            report.append("UCM++1+").append(2 * m + 2).append("'");
-        }
-        report.append("UCM+").append("??".repeat(plain)).append("+1+38'");
-        // More characters than one desk may be asked for.
+    /** The report of a text, asked for on several desks: it has more characters than one may be asked for. */
+    private static void reported(String text, int messages, String report) {
+        Check.due("how long the text is", text.length(), 400);
         for (int from = 0; from < report.length(); from += 300) {
-            Desk desk = Check.having(text, 19);
+            Desk desk = Check.having(text, messages);
             Check.due("how many", desk.report(-1), report.length());
             for (int i = from; i < Math.min(report.length(), from + 300); i++) {
                 Check.due("report " + i, desk.report(i), (int) report.charAt(i));
             }
             Check.due("behind the last one", desk.report(report.length()), -1);
         }
+    }
+
+    private static void longestReport() {
+        int most = 400 - "UNA!$.# %UNB%UNH$%UNT%UNZ%".length();
+        reported("UNA!$.# %UNB%UNH$" + "?".repeat(most) + "%UNT%UNZ%", 1,
+                "UCI++3'UCM+" + "??".repeat(most) + "+1+2'");
+        int less = 400 - "UNA!$.# %UNB$$$%UNG%UNH%UNT%UNE%UNZ%".length();
+        reported("UNA!$.# %UNB$$$" + "+".repeat(less) + "%UNG%UNH%UNT%UNE%UNZ%", 1,
+                "UCI+" + "?+".repeat(less) + "+3'UCF++3'UCM++1+3'");
+    }
+
+    private static void mostLinesOfTheReport() {
+        int plain = 400 - "UNA!$.# %UNB%".length() - 19 * 8 - "UNZ%".length() - 1;
+        StringBuilder report = new StringBuilder("UCI++3'");
+        for (int m = 0; m < 18; m++) {
+            report.append("UCM++1+").append(2 * m + 2).append("'");
+        }
+        report.append("UCM+").append("??".repeat(plain)).append("+1+38'");
+        reported("UNA!$.# %UNB%" + "UNH%UNT%".repeat(18) + "UNH$" + "?".repeat(plain) + "%UNT%UNZ%", 19,
+                report.toString());
     }
 }

@@ -55,7 +55,8 @@ public final class ReadTest {
     /** "IllegalArgumentException if it is not segments as said" */
     private static void notSegments() {
         for (String text : new String[] {
-            "", " ", "A", "ABC", "abc'", "ABC'D", "ABC+", "ABC+?'", "ABC:'", "ABC''", "UNA", "UNA:+.? '", "UNAxxxxxx"}) {
+            "", " ", "A", "ABC", "abc'", "ABC'D", "ABC+", "ABC+?'", "ABC:'", "ABC''",
+            "UNA", "UNA:+.? '", "UNAxxxxxx"}) {
             Desk desk = new Desk();
             Check.due("read " + text, Check.read(desk, text), Check.ARGUMENT);
         }

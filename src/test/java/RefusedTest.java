@@ -168,20 +168,23 @@ public final class RefusedTest {
         return all.toString();
     }
 
+    private static final String[] MESSAGES = {
+        "", "AAA'", "AAA'AAA'", "AAA'BBB'", "AAA'BBB'CCC'DDD'DDD'EEE'", "FFF'FFF'"};
+
     /** What the tables are can be seen of what they do to messages. */
     private static void match(Desk desk, StringBuilder all) {
         for (int type = 0; type < 4; type++) {
             desk.wipe();
             StringBuilder text = new StringBuilder("UNB'");
             int reference = 0;
-            for (String tags : new String[] {"", "AAA'", "AAA'AAA'", "AAA'BBB'", "AAA'BBB'CCC'DDD'DDD'EEE'", "FFF'FFF'"}) {
+            for (String tags : MESSAGES) {
                 reference++;
                 text.append("UNH+").append(reference).append("+").append(type).append("'").append(tags);
                 text.append("UNT+").append(2 + tags.length() / 4).append("+").append(reference).append("'");
             }
             Check.type(desk, text + "UNZ'");
             say(all, desk::read);
-            for (int m = 0; m < 6; m++) {
+            for (int m = 0; m < MESSAGES.length; m++) {
                 all.append(Check.verdict(desk, m)).append(' ');
             }
         }
