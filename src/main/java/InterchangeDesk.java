@@ -422,8 +422,10 @@ public final class InterchangeDesk {
             if (width != widthOf(other)) {
                 return false;
             }
+            int first = firstCharacters.at(one);
+            int otherFirst = firstCharacters.at(other);
             for (int i = 0; i < width; i++) {
-                if (characterOf(one, i) != characterOf(other, i)) {
+                if (characters.at(first + i) != characters.at(otherFirst + i)) {
                     return false;
                 }
             }
@@ -432,12 +434,13 @@ public final class InterchangeDesk {
 
         boolean isNumber(int component, int due) {
             int width = widthOf(component);
-            if (width < 1 || width > 3 || width > 1 && characterOf(component, 0) == '0') {
+            int first = firstCharacters.at(component);
+            if (width < 1 || width > 3 || width > 1 && characters.at(first) == '0') {
                 return false;
             }
             int value = 0;
             for (int i = 0; i < width; i++) {
-                int c = characterOf(component, i);
+                int c = characters.at(first + i);
                 if (!isDigit(c)) {
                     return false;
                 }
